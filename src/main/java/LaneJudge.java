@@ -276,10 +276,8 @@ public final class LaneJudge {
             visited |= 1 << position;
             ending = endingAt(position);
             if (ending == GOING) {
-                // The next position is told by the register's old value.
-                int next = nextAfter(position);
                 changeRegister(position);
-                position = next;
+                position = nextAfter(position);
             }
         }
         if (ending == GOING) {
