@@ -48,8 +48,13 @@ public final class EditingTest {
         int[] due = {1, 1, 1, 1, 2, 20, 39, 40, 40, 40, 40};
         for (int n = 0; n < limits.length; n++) {
             LaneJudge x = new LaneJudge(limits[n]);
-            x.emit(0, 2, 1);
-            x.emit(9, 2, 0);
+            // 33 instructions of a loop and nine more: a limit that was not clamped would show, and not hang.
+            x.emit(0, 3, 1);
+            x.emit(3, 2, 3);
+            x.emit(9, 2, 1);
+            for (int p = 3; p < 12; p++) {
+                x.emit(1, 0, 0);
+            }
             Due.is("limit " + limits[n] + ": steps(5)", x.steps(5), due[n]);
             Due.is("limit " + limits[n] + ": fate(5)", x.fate(5), LaneJudge.TIRED);
         }

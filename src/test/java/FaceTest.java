@@ -7,8 +7,11 @@ import java.nio.file.Files;
 import java.nio.file.Path;
 import java.util.Arrays;
 import java.util.HashSet;
+import java.util.Map;
 import java.util.Set;
+import java.util.TreeMap;
 import java.util.TreeSet;
+import java.util.regex.Matcher;
 import java.util.regex.Pattern;
 
 /** The public face of the document, and those rules of LANGUAGE.md that can be seen from outside or by words. */
@@ -27,11 +30,16 @@ public final class FaceTest {
         "interface", "record", "var", "protected", "extends", "implements", "native", "volatile", "yield",
     };
 
+    private static final Pattern METHOD =
+        Pattern.compile("(?ms)^    (?:public|private) (?:static )?(?:int |void |boolean )?(\\w+)\\([^)]*\\) \\{$(.*?)^    \\}$");
+    private static final Pattern CALL = Pattern.compile("\\b(?!(?:if|for|while|switch|return)\\b)([a-z]\\w*)\\s*\\(");
+
     public static void main(String[] args) throws IOException {
         membersAreTheFace();
         fieldsKeepToTheRules();
         methodsKeepToTheRules();
         wordsKeepToTheRules();
+        callsKeepToTheRules();
         Due.end();
     }
 
@@ -88,8 +96,12 @@ public final class FaceTest {
         }
     }
 
+    private static String code() throws IOException {
+        return Files.readString(SOURCE).replaceAll("(?s)/\\*.*?\\*/", " ").replaceAll("//[^\\n]*", " ");
+    }
+
     private static void wordsKeepToTheRules() throws IOException {
-        String code = Files.readString(SOURCE).replaceAll("(?s)/\\*.*?\\*/", " ").replaceAll("//[^\\n]*", " ");
+        String code = code();
         for (String word : BANNED) {
             Due.holds("the source is without " + word, !Pattern.compile("\\b" + word + "\\b").matcher(code).find());
         }
@@ -99,5 +111,50 @@ public final class FaceTest {
         Due.holds("arrays are made in field initialisers alone",
             code.lines().filter(line -> Pattern.compile("\\bnew\\b").matcher(line).find())
                 .allMatch(line -> line.matches("    private final \\w+\\[\\] \\w+ = new \\w+\\[[A-Z_0-9]+\\];")));
+    }
+
+    /** Rules 8 and 10: no recursion, calls at most six deep, none in another's arguments, short methods. */
+    private static void callsKeepToTheRules() throws IOException {
+        Matcher method = METHOD.matcher(code());
+        Map<String, Set<String>> calls = new TreeMap<>();
+        while (method.find()) {
+            String name = method.group(1);
+            String body = method.group(2);
+            Due.holds(name + " is short", body.lines().count() <= 60);
+            Set<String> called = new TreeSet<>();
+            Matcher call = CALL.matcher(body);
+            while (call.find()) {
+                called.add(call.group(1));
+                Due.holds("no call in the arguments of " + call.group(1) + " in " + name, !CALL.matcher(arguments(body, call.end())).find());
+            }
+            calls.put(name, called);
+        }
+        int declared = LaneJudge.class.getDeclaredMethods().length + LaneJudge.class.getDeclaredConstructors().length;
+        Due.is("methods and constructors found in the source", calls.size(), declared);
+        for (String name : calls.keySet()) {
+            Due.holds(name + " calls at most six deep and not itself", depth(name, calls, 0) <= 6);
+        }
+    }
+
+    /** The text from there to the parenthesis that closes the call. */
+    private static String arguments(String body, int from) {
+        int open = 1;
+        int at = from;
+        while (open > 0) {
+            open += body.charAt(at) == '(' ? 1 : body.charAt(at) == ')' ? -1 : 0;
+            at++;
+        }
+        return body.substring(from, at);
+    }
+
+    /** How deep the calls go that begin with this one; a recursion answers some number over the bound. */
+    private static int depth(String name, Map<String, Set<String>> calls, int above) {
+        int deepest = 1;
+        if (above < 10) {
+            for (String called : calls.get(name)) {
+                deepest = Math.max(deepest, 1 + depth(called, calls, above + 1));
+            }
+        }
+        return deepest;
     }
 }
