@@ -24,6 +24,7 @@ public final class ModelTest {
         for (int fate = 0; fate < 4; fate++) {
             Due.holds("the sequence has runs of fate " + fate, fates[fate] > 1000);
         }
+        everyProgramOfOneInstruction();
         questionsChangeNothing();
         Due.end();
     }
@@ -78,8 +79,9 @@ public final class ModelTest {
         Due.is(when + ": fate(" + k + ")", x.fate(k), due.fate());
         Due.is(when + ": steps(" + k + ")", x.steps(k), due.steps());
         Due.is(when + ": endAt(" + k + ")", x.endAt(k), due.position());
-        int i = next(4);
-        Due.is(when + ": register(" + k + ", " + i + ")", x.register(k, i), due.registers().get(i));
+        for (int i = 0; i < 4; i++) {
+            Due.is(when + ": register(" + k + ", " + i + ")", x.register(k, i), due.registers().get(i));
+        }
     }
 
     private static void askSurvey(String when, LaneJudge x, List<Model.Ending> runs) {
@@ -124,6 +126,30 @@ public final class ModelTest {
         }
         Due.is(when + ": agreeing()", x.agreeing(), agreeing);
         Due.is(when + ": difference()", x.difference(), difference);
+    }
+
+    private static void everyProgramOfOneInstruction() {
+        for (int op = 0; op < 12; op++) {
+            for (int a = 0; a < 4; a++) {
+                for (int b = 0; b < 16; b++) {
+                    Model m = new Model(3);
+                    LaneJudge x = new LaneJudge(3);
+                    String when = "emit(" + op + ", " + a + ", " + b + ")";
+                    Due.is(when, x.emit(op, a, b), m.emit(op, a, b));
+                    askAll(when, m, x);
+                }
+            }
+        }
+    }
+
+    /** Every input and every survey: 498 calls on x. */
+    private static void askAll(String when, Model m, LaneJudge x) {
+        List<Model.Ending> runs = m.runs();
+        for (int k = 0; k < 64; k++) {
+            askInput(when, x, k, runs);
+        }
+        askSurvey(when, x, runs);
+        askKept(when, m, x, runs);
     }
 
     private static void questionsChangeNothing() {

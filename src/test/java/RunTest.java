@@ -8,6 +8,7 @@ public final class RunTest {
         setAndMove();
         operationsOnAllPairs();
         operationsOnOneRegister();
+        operationsOnEveryTwoRegisters();
         branchGoesWhereItSays();
         branchReadsAnyValueButZero();
         branchPastTheEnd();
@@ -120,6 +121,26 @@ public final class RunTest {
                 int due = op == 1 ? value : expected(op, value, value);
                 Due.is("operation " + op + " on " + value + " with itself", x.register(0, 2), due < 0 ? 0 : due);
                 Due.is("its fate", x.fate(0), due < 0 ? LaneJudge.TRAPPED : LaneJudge.HALTED);
+            }
+        }
+    }
+
+    /** Each register is read as a and as b, and a alone is changed. */
+    private static void operationsOnEveryTwoRegisters() {
+        int[] values = {12, 10, 3, 7};
+        for (int op = 1; op <= 8; op++) {
+            for (int a = 0; a < 4; a++) {
+                for (int b = 0; b < 4; b++) {
+                    LaneJudge x = new LaneJudge(40);
+                    for (int i = 0; i < 4; i++) {
+                        x.emit(0, i, values[i]);
+                    }
+                    x.emit(op, a, b);
+                    int due = op == 1 ? values[b] : expected(op, values[a], values[b]);
+                    for (int i = 0; i < 4; i++) {
+                        Due.is("operation " + op + " on " + a + " and " + b + ": always(" + i + ")", x.always(i), i == a ? due : values[i]);
+                    }
+                }
             }
         }
     }
