@@ -128,6 +128,7 @@ public final class ModelTest {
         Due.is(when + ": difference()", x.difference(), difference);
     }
 
+    /** CLAIM and HALT take any other b too; TermsEdgeTest looks at that. */
     private static void everyProgramOfOneInstruction() {
         for (int op = 0; op < 12; op++) {
             for (int a = 0; a < 4; a++) {
